@@ -341,6 +341,7 @@ public final class PromiseTest {
     due(10, "cut(1) by DARK", x.cut(1), 1);
     due(10, "pass() again", x.pass(), 0);
     due(10, "pass() back", x.pass(), 1);
+    due(10, "count(2), back", x.count(2), 0);
     HedgeGame none = page("w-");
     refused(10, "pass(), no HEDGE", none, none.digest(), none.pass(), STATE);
   }
@@ -359,6 +360,7 @@ public final class PromiseTest {
     due(11, "best(0)", x.best(0), 1);
     due(11, "likely(0)", x.likely(0), 0);
     due(11, "graft(0, 2), as it is", x.graft(0, 2), 2);
+    afterGraft();
     due(11, "graft(0, 4)", x.graft(0, 4), 2);
     due(11, "graft(0, 0)", x.graft(0, 0), 4);
     due(11, "graft(0, 3)", x.graft(0, 3), 0);
@@ -374,6 +376,20 @@ public final class PromiseTest {
       refused(11, "graft(" + bad + ", " + bad + ")", x, x.digest(), x.graft(bad, bad), UNKNOWN);
     }
     refused(11, "graft(2, 0)", x, x.digest(), x.graft(2, 0), UNKNOWN);
+  }
+
+  /** What was told before a graft must not be told of the KINDS behind it. */
+  private static void afterGraft() {
+    HedgeGame x = of("w-,d-");
+    int[] before = {x.wins(0), x.best(0), x.lasts(0), x.likely(0), x.worth(), x.tree(1), x.even(), x.branch(0, 7)};
+    x.graft(1, 1);
+    int[] after = {x.wins(0), x.best(0), x.lasts(0), x.likely(0), x.worth(), x.tree(1), x.even(), x.branch(0, 7)};
+    int[] first = {1, 0, 2, 0, 0, -256, -2, 1};
+    int[] then = {0, 0, 1, 1000000, 512, 256, 2, 0};
+    for (int i = 0; i < first.length; i++) {
+      due(11, "the " + i + "th before graft(1, 1)", before[i], first[i]);
+      due(11, "the " + i + "th after graft(1, 1)", after[i], then[i]);
+    }
   }
 
   private static void wins() {
@@ -489,8 +505,9 @@ public final class PromiseTest {
   }
 
   private static void even() {
-    String[] texts = {"w-", "w-,w-", "w-,d-", "w-,w-,w-", "b-,d0", "b-,b-", "i-", "i-,w-", "b-", "d-,i-", "i-,i-,d-"};
-    int[] told = {3, 2, -2, NONE, 4, -2, -2, 2, 3, 3, 1};
+    String[] texts = {"w-", "w-,w-", "w-,d-", "w-,w-,w-", "b-,d0", "b-,b-", "i-", "i-,w-", "b-", "d-,i-", "i-,i-,d-",
+      "i-,b-", "d-,d-,d-,d-,d-,d-,d-,d-", "i-,i-,i-,i-,i-,i-,i-,w-", "i-,i0,i1,i2,i3,i4,i5,w6"};
+    int[] told = {3, 2, -2, NONE, 4, -2, -2, 2, 3, 3, 1, 0, NONE, 2, 73};
     for (int i = 0; i < texts.length; i++) {
       due(17, "even() of " + texts[i], of(texts[i]).even(), told[i]);
     }
@@ -590,6 +607,9 @@ public final class PromiseTest {
     gamesAre("b-,b0", 1, 12345, 1, 1, 1406932606);
     gamesAre("w-", 1, Integer.MAX_VALUE, 1, 1, 1043980748);
     gamesAre("i-", 40, Integer.MAX_VALUE, 20, 0, Integer.MAX_VALUE);
+    gamesAre("b-,b0", 40, 7, 15, 55, 1297175086);
+    gamesAre(EIGHT_ON_THE_GROUND, 2, 0, 1, 16, 1695770928);
+    gamesAre("b-,b0,b0,b0,b0,b0,b0,b0", 40, Integer.MAX_VALUE, 20, 186, 1387828125);
     HedgeGame x = of("i-,b0,w-,d2,d-");
     long before = x.digest();
     x.games(40, 1, 0);
@@ -653,7 +673,7 @@ public final class PromiseTest {
     due(23, "count(7)", x.count(7), 1);
     due(23, "branch(0, 0)", x.branch(0, 0), 1);
     x.forget();
-    x.see(1, 1, true);
+    x.see(1, 0, false);
     due(23, "restore() again", x.restore(), 1);
     due(23, "digest() again", x.digest(), before);
     x.pass();
