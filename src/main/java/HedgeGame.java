@@ -31,6 +31,7 @@ public final class HedgeGame {
     private final Values values = new Values(rules);
     private final Chances chances = new Chances(rules);
     private final Lottery lottery = new Lottery(rules);
+    private boolean isCharted = false;
     private boolean isKept = false;
     private int hedgesRead = 0;
     private int evensDone = 0;
@@ -67,7 +68,7 @@ public final class HedgeGame {
         }
         shape.readFrom(page);
         now.beginWith(page, shape.number);
-        forgetCharts();
+        isCharted = false;
         page.wipe();
         isKept = false;
         hedgesRead++;
@@ -94,8 +95,10 @@ public final class HedgeGame {
             case 5:
                 return shape.above[branch];
             case 6:
+                chart();
                 return sortsOf(branch);
             case 7:
+                chart();
                 return whomToLetBegin(branch);
             default:
                 return OUTSIDE;
@@ -160,7 +163,7 @@ public final class HedgeGame {
         }
         int was = now.kinds[branch];
         now.kinds[branch] = kind;
-        forgetCharts();
+        isCharted = false;
         return was;
     }
 
@@ -173,6 +176,7 @@ public final class HedgeGame {
         if (hasNoHedge()) {
             return STATE;
         }
+        chart();
         return outcomes.isWonBy(begins, now.standing) ? begins : 1 - begins;
     }
 
@@ -183,6 +187,7 @@ public final class HedgeGame {
         if (hasNoHedge()) {
             return STATE;
         }
+        chart();
         return lengths.bestCut(begins, now.standing);
     }
 
@@ -193,6 +198,7 @@ public final class HedgeGame {
         if (hasNoHedge()) {
             return STATE;
         }
+        chart();
         return lengths.cutsFrom(begins, now.standing);
     }
 
@@ -200,6 +206,7 @@ public final class HedgeGame {
         if (hasNoHedge()) {
             return STATE;
         }
+        chart();
         return values.valueOf(now.standing);
     }
 
@@ -210,6 +217,7 @@ public final class HedgeGame {
         if (shape.on[branch] != NONE) {
             return STATE;
         }
+        chart();
         return values.valueOf(now.standing & shape.withAllOn(branch));
     }
 
@@ -218,6 +226,7 @@ public final class HedgeGame {
             return STATE;
         }
         evensDone++;
+        chart();
         return evenBy();
     }
 
@@ -228,6 +237,7 @@ public final class HedgeGame {
         if (hasNoHedge()) {
             return STATE;
         }
+        chart();
         return chances.millionths(begins, now.standing);
     }
 
@@ -287,7 +297,7 @@ public final class HedgeGame {
             return STATE;
         }
         now.copyFrom(kept);
-        forgetCharts();
+        isCharted = false;
         return now.cuts;
     }
 
@@ -321,7 +331,12 @@ public final class HedgeGame {
     }
 
     public long digest() {
-        long h = digestBranches(1283L);
+        long h = 1283L;
+        for (int branch = 0; branch < shape.number; branch++) {
+            for (int what = 0; what < BRANCH_TELLS; what++) {
+                h = 31L * h + branch(branch, what);
+            }
+        }
         if (!hasNoHedge()) {
             h = digestOutlook(h);
         }
@@ -330,16 +345,6 @@ public final class HedgeGame {
         }
         for (int what = 0; what < COUNTS; what++) {
             h = 31L * h + count(what);
-        }
-        return h;
-    }
-
-    private long digestBranches(long start) {
-        long h = start;
-        for (int branch = 0; branch < shape.number; branch++) {
-            for (int what = 0; what < BRANCH_TELLS; what++) {
-                h = 31L * h + branch(branch, what);
-            }
         }
         return h;
     }
@@ -373,12 +378,32 @@ public final class HedgeGame {
         return begins != WHITE_SIDE && begins != DARK_SIDE;
     }
 
-    /** The charts hold for every set that can STAND, so they outlive cuts and growth, but no change of a KIND. */
-    private void forgetCharts() {
-        outcomes.spoil();
-        lengths.spoil();
-        values.spoil();
-        chances.spoil();
+    /**
+     * Fills the charts, unless they are filled: each tells something of every set that can STAND, by what it tells of
+     * the smaller ones. So they outlive cuts and growth, but no change of a KIND.
+     */
+    private void chart() {
+        if (isCharted) {
+            return;
+        }
+        for (int i = 0; i < shape.setCount; i++) {
+            int set = shape.sets[i];
+            int whites = rules.choices(WHITE_SIDE, set);
+            int darks = rules.choices(DARK_SIDE, set);
+            outcomes.enter(WHITE_SIDE, set);
+            outcomes.enter(DARK_SIDE, set);
+            lengths.enter(WHITE_SIDE, set, whites);
+            lengths.enter(DARK_SIDE, set, darks);
+            values.enter(set, whites, darks);
+            chances.enter(WHITE_SIDE, set, whites);
+            chances.enter(DARK_SIDE, set, darks);
+        }
+        isCharted = true;
+    }
+
+    /** Where a chart tells of a set, if it tells one thing for each side to begin. */
+    private static int place(int side, int set) {
+        return side * MOST_SETS + set;
     }
 
     private int evenBy() {
@@ -652,37 +677,7 @@ public final class HedgeGame {
         }
 
         int leftBy(int branch, int set) {
-            return set & ~shape.withAllOn(branch);
-        }
-    }
-
-    /** Something told of each set that can STAND, found from what is told of the smaller ones. */
-    private abstract static class Chart {
-        final Rules rules;
-        private boolean isFresh = false;
-
-        Chart(Rules rules) {
-            this.rules = rules;
-        }
-
-        void spoil() {
-            isFresh = false;
-        }
-
-        void freshen() {
-            if (isFresh) {
-                return;
-            }
-            for (int i = 0; i < rules.shape.setCount; i++) {
-                enter(rules.shape.sets[i]);
-            }
-            isFresh = true;
-        }
-
-        abstract void enter(int set);
-
-        static int place(int side, int set) {
-            return side * MOST_SETS + set;
+            return set & ~(shape.above[branch] | 1 << branch);
         }
     }
 
@@ -690,33 +685,27 @@ public final class HedgeGame {
      * Whether who begins wins, at once for the hedge as it is and for each hedge in which one BRANCH is of some KIND:
      * each of these hedges is one bit of a long, as the same cuts lead all of them from set to set.
      */
-    private static final class Outcomes extends Chart {
+    private static final class Outcomes {
         private static final long AS_IT_IS = 1L << KINDS * MOST_BRANCHES;
         private static final long ALL_HEDGES = 2L * AS_IT_IS - 1L;
 
+        private final Rules rules;
         private final long[] won = new long[SIDES * MOST_SETS];
 
         Outcomes(Rules rules) {
-            super(rules);
+            this.rules = rules;
         }
 
         boolean isWonBy(int begins, int set) {
-            freshen();
             return (won[place(begins, set)] & AS_IT_IS) != 0L;
         }
 
         /** The KINDS, as bits, that a BRANCH can be of so that who begins wins. */
         int winningKinds(int begins, int branch, int set) {
-            freshen();
             return (int) (won[place(begins, set)] >> KINDS * branch) & ALL_KINDS;
         }
 
-        void enter(int set) {
-            won[place(WHITE_SIDE, set)] = hedgesWonBy(WHITE_SIDE, set);
-            won[place(DARK_SIDE, set)] = hedgesWonBy(DARK_SIDE, set);
-        }
-
-        private long hedgesWonBy(int side, int set) {
+        void enter(int side, int set) {
             long found = 0L;
             for (int branch = 0; branch < rules.shape.number; branch++) {
                 if ((set >> branch & 1) != 0) {
@@ -724,7 +713,7 @@ public final class HedgeGame {
                     found |= hedgesWithCut(side, branch, set) & lost;
                 }
             }
-            return found;
+            won[place(side, set)] = found;
         }
 
         private long hedgesWithCut(int side, int branch, int set) {
@@ -739,22 +728,21 @@ public final class HedgeGame {
     }
 
     /** How many CUTS there are, if who wins hurries and who loses does not. */
-    private static final class Lengths extends Chart {
+    private static final class Lengths {
+        private final Rules rules;
         private final Outcomes outcomes;
         private final int[] cuts = new int[SIDES * MOST_SETS];
 
         Lengths(Rules rules, Outcomes outcomes) {
-            super(rules);
+            this.rules = rules;
             this.outcomes = outcomes;
         }
 
         int cutsFrom(int begins, int set) {
-            freshen();
             return cuts[place(begins, set)];
         }
 
         int bestCut(int begins, int set) {
-            freshen();
             boolean wins = outcomes.isWonBy(begins, set);
             int choices = rules.choices(begins, set);
             int found = NONE;
@@ -774,13 +762,7 @@ public final class HedgeGame {
             return found;
         }
 
-        void enter(int set) {
-            cuts[place(WHITE_SIDE, set)] = lengthFor(WHITE_SIDE, set);
-            cuts[place(DARK_SIDE, set)] = lengthFor(DARK_SIDE, set);
-        }
-
-        private int lengthFor(int side, int set) {
-            int choices = rules.choices(side, set);
+        void enter(int side, int set, int choices) {
             boolean wins = outcomes.isWonBy(side, set);
             int found = 0;
             for (int branch = 0; branch < rules.shape.number; branch++) {
@@ -794,34 +776,32 @@ public final class HedgeGame {
                     }
                 }
             }
-            return found;
+            cuts[place(side, set)] = found;
         }
     }
 
     /** WORTH, as so many of 256: eight BRANCHES need no finer ones than 128ths. */
-    private static final class Values extends Chart {
+    private static final class Values {
         private static final int ONE = 256;
         /** Beyond all that eight BRANCHES can be WORTH: it stands for the bound that is missing. */
         private static final int FAR = 1 << 20;
 
+        private final Rules rules;
         private final int[] value = new int[MOST_SETS];
 
         Values(Rules rules) {
-            super(rules);
+            this.rules = rules;
         }
 
         int valueOf(int set) {
-            freshen();
             return value[set];
         }
 
-        void enter(int set) {
-            value[set] = simplestOf(set);
+        void enter(int set, int whites, int darks) {
+            value[set] = simplestOf(set, whites, darks);
         }
 
-        private int simplestOf(int set) {
-            int whites = rules.choices(WHITE_SIDE, set);
-            int darks = rules.choices(DARK_SIDE, set);
+        private int simplestOf(int set, int whites, int darks) {
             int low = -FAR;
             int high = FAR;
             for (int branch = 0; branch < rules.shape.number; branch++) {
@@ -845,23 +825,22 @@ public final class HedgeGame {
             if (low < 0 && high > 0) {
                 return 0;
             }
-            return low >= 0 ? simplestAbove(low, high) : -simplestAbove(-high, -low);
-        }
-
-        /** For a low bound of 0 at least: the first number above it, in the widest steps that have one below the high. */
-        private static int simplestAbove(int low, int high) {
+            // The number is on one side of 0: the bound nearer to 0, then the first steps beyond it, the widest ahead.
+            int sign = low >= 0 ? 1 : -1;
+            int near = low >= 0 ? low : -high;
+            int far = low >= 0 ? high : -low;
             for (int step = ONE; step > 1; step /= 2) {
-                int next = (low / step + 1) * step;
-                if (next < high) {
-                    return next;
+                int next = (near / step + 1) * step;
+                if (next < far) {
+                    return sign * next;
                 }
             }
-            return low + 1;
+            return sign * (near + 1);
         }
     }
 
     /** How likely WHITE wins, if both CUT by chance. */
-    private static final class Chances extends Chart {
+    private static final class Chances {
         /**
          * All chances are whole numbers of this: it is the product of the least common multiples of 1 to n for n from 1
          * to 8, and with n BRANCHES that STAND a chance is divided by n at most, with fewer ones to follow.
@@ -869,27 +848,22 @@ public final class HedgeGame {
         private static final long CERTAIN = 182891520000L;
         private static final long MILLION = 1000000L;
 
+        private final Rules rules;
         private final long[] chance = new long[SIDES * MOST_SETS];
 
         Chances(Rules rules) {
-            super(rules);
+            this.rules = rules;
         }
 
         int millionths(int begins, int set) {
-            freshen();
             return (int) (chance[place(begins, set)] * MILLION / CERTAIN);
         }
 
-        void enter(int set) {
-            chance[place(WHITE_SIDE, set)] = chanceFor(WHITE_SIDE, set);
-            chance[place(DARK_SIDE, set)] = chanceFor(DARK_SIDE, set);
-        }
-
-        private long chanceFor(int side, int set) {
-            int choices = rules.choices(side, set);
+        void enter(int side, int set, int choices) {
             int ways = Integer.bitCount(choices);
             if (ways == 0) {
-                return side == DARK_SIDE ? CERTAIN : 0L;
+                chance[place(side, set)] = side == DARK_SIDE ? CERTAIN : 0L;
+                return;
             }
             long sum = 0L;
             for (int branch = 0; branch < rules.shape.number; branch++) {
@@ -897,7 +871,7 @@ public final class HedgeGame {
                     sum += chance[place(1 - side, rules.leftBy(branch, set))];
                 }
             }
-            return sum / ways;
+            chance[place(side, set)] = sum / ways;
         }
     }
 
