@@ -220,6 +220,7 @@ public final class PromiseTest {
   }
 
   private static void sortsAndLet() {
+    due(6, "LET, asked ahead of all else: beside DARK", of("w-,d-").branch(0, 7), 1);
     HedgeGame x = of("w-");
     due(6, "SORTS, nothing SEEN", x.branch(0, 6), 31);
     due(6, "LET, nothing SEEN: like ones", x.branch(0, 7), 0);
