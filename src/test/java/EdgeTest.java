@@ -178,8 +178,8 @@ public final class EdgeTest {
   }
 
   private static void anotherHedge() {
-    HedgeGame x = of("b-,b0,b-,d-,w-");
-    x.cut(2);
+    HedgeGame x = of("b-,b0,b1,b-,d-,w-");
+    x.cut(3);
     x.see(0, 0, true);
     x.graft(1, 3);
     x.image();
@@ -190,6 +190,7 @@ public final class EdgeTest {
     due("count(3)", x.count(3), 0);
     due("count(7)", x.count(7), 0);
     due("branch(0, 5)", x.branch(0, 5), 2);
+    due("branch(1, 5): nothing is ON it now", x.branch(1, 5), 0);
     due("branch(0, 6)", x.branch(0, 6), 31);
     due("branch(1, 0)", x.branch(1, 0), 1);
     due("branch(2, 0): the third one is gone", x.branch(2, 0), UNKNOWN);

@@ -354,6 +354,7 @@ public final class TermsTest {
     due("best(0): each wins", of("b-,b-,b-").best(0), 0);
     due("best(1): each wins", of("b-,b-,b-").best(1), 0);
     due("best(0): the least, though another is over sooner", of("w-,w-,b-").best(0), 0);
+    due("best(0): the least, though another goes on longer", of("b-,w-,w-").best(0), 0);
     due("best(0): the least does not win", of("w-,w0,d-").best(0), 1);
     due("best(1): the least does not win", of("d-,w-,d1").best(1), 2);
     due("best(0): not the least BRANCH, which he may not CUT", of("i-,b-,b-,b-").best(0), 1);
@@ -632,6 +633,12 @@ public final class TermsTest {
     x.see(0, 0, false);
     x.see(0, 1, false);
     due("branch(0, 6), who begins does not win", x.branch(0, 6), 8);
+    HedgeGame last = of(Sentences.onGround('i', 8));
+    last.see(7, 0, true);
+    last.see(6, 1, true);
+    due("branch(7, 6), SEEN of it", last.branch(7, 6), 19);
+    due("branch(6, 6), SEEN of it", last.branch(6, 6), 5);
+    due("branch(0, 6), nothing SEEN of it", last.branch(0, 6), 31);
   }
 
   private static void fewestLeft() {
@@ -732,13 +739,15 @@ public final class TermsTest {
     HedgeGame x = of("b-,w0,d-");
     x.cut(1);
     x.graft(2, 4);
-    x.see(0, 0, true);
+    x.see(2, 0, true);
+    x.see(0, 0, false);
     x.image();
     x.graft(2, 3);
     x.cut(0);
     x.forget();
-    x.see(0, 1, false);
+    x.see(0, 1, true);
     x.see(1, 1, false);
+    x.see(1, 1, true);
     Sentences.type(x, "w-,");
     x.even();
     x.restore();
@@ -747,8 +756,10 @@ public final class TermsTest {
     due("branch(1, 2): what does not", x.branch(1, 2), 0);
     due("count(2): whose turn it is", x.count(2), 1);
     due("count(3): how many CUTS there were", x.count(3), 1);
-    due("count(7): SEEN", x.count(7), 1);
-    due("branch(0, 6): what is SEEN", x.branch(0, 6), 27);
+    due("count(7): SEEN", x.count(7), 2);
+    due("branch(0, 6): what is SEEN of the first", x.branch(0, 6), 4);
+    due("branch(1, 6): what is SEEN of the second", x.branch(1, 6), 31);
+    due("branch(2, 6): what is SEEN of the third", x.branch(2, 6), 26);
     due("count(8): THE PAGE is not kept", x.count(8), 3);
     due("count(10): how often even() was done is not kept", x.count(10), 1);
   }
