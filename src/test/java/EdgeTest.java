@@ -757,9 +757,10 @@ public final class EdgeTest {
 
   private static void seenFull() {
     HedgeGame x = of("w-,i-");
-    for (int times = 0; times < 6; times++) {
+    for (int times = 0; times < 5; times++) {
       x.see(0, 0, true);
     }
+    due("see(0, 0, true), the 6th", x.see(0, 0, true), 6);
     Sentences.refused(x, "see(0, 0, true), the 7th", () -> x.see(0, 0, true), FULL);
     Sentences.refused(x, "see(1, 1, false), the 7th", () -> x.see(1, 1, false), FULL);
     due("branch(0, 6): the six stay", x.branch(0, 6), 19);
